@@ -100,7 +100,7 @@ public final class TreeStore {
     }
 
     public int hangs(int x, int y, int i) {
-        if (ask(x, y) != -1) {
+        if (!nodes.has(x) || !nodes.has(y) || !trial.equate(x, y)) {
             return NONE;
         }
         return trial.bound.numbered(i);

@@ -21,12 +21,65 @@ public final class ModelTest {
         for (int seed = 0; seed < 1500 && !Check.anyWrong(); seed++) {
             new ModelTest(seed).run(seed % 50 == 0 ? 512 : 40 + seed % 120);
         }
+        for (int seed = 0; seed < 1500 && !Check.anyWrong(); seed++) {
+            new ModelTest(seed).runOnGraph();
+        }
         Check.finish();
     }
 
     private void run(int calls) {
         for (int call = 0; call < calls && !Check.anyWrong(); call++) {
             oneCall(call);
+        }
+    }
+
+    /** Variables that are told to be records of variables, so that there are many rings: all pairs are compared. */
+    private void runOnGraph() {
+        int inner = 1 + random.nextInt(6);
+        int leaves = random.nextInt(3);
+        int all = inner + leaves;
+        for (int i = 0; i < all; i++) {
+            due("variable", store.variable(), model.variable());
+        }
+        int[] order = random.ints(0, all).distinct().limit(all).toArray();
+        for (int i = 0; i < inner; i++) {
+            tellOneRecord(order[i], all);
+        }
+        for (int i = inner; i < all && random.nextBoolean(); i++) {
+            int leaf = random.nextInt(3) == 0 ? store.number(1) : store.thing(1);
+            due("leaf", leaf, store.look(leaf, 0L, 0) == 1 ? model.number(1) : model.thing(1));
+            due("tell a leaf", store.tell(order[i], leaf), model.tell(order[i], leaf));
+        }
+        comparePairs(all);
+        int x = random.nextInt(all);
+        int y = random.nextInt(all);
+        due("tell two", store.tell(x, y), model.tell(x, y));
+        comparePairs(all);
+        markSome();
+        due("sweep", store.sweep(), model.sweep());
+        lookAtAll("sweep ");
+        comparePairs(all);
+    }
+
+    private void tellOneRecord(int variable, int all) {
+        boolean thing = random.nextInt(5) == 0;
+        for (int f = 1; f <= variety; f++) {
+            int part = random.nextInt(all);
+            due("push", store.push(f, part), model.push(f, part));
+        }
+        int made = thing ? store.thing(1) : store.record(1);
+        due("made", made, thing ? model.thing(1) : model.record(1));
+        due("tell a record", store.tell(variable, made), model.tell(variable, made));
+    }
+
+    private void comparePairs(int all) {
+        for (int x = 0; x < all; x++) {
+            for (int y = 0; y < all; y++) {
+                String pair = "(" + x + ", " + y + ")";
+                due("like" + pair, store.like(x, y), model.like(x, y));
+                due("ask" + pair, store.ask(x, y), model.ask(x, y));
+                due("hangs" + pair, store.hangs(x, y, 0), model.hangs(x, y, 0));
+            }
         }
     }
 
@@ -143,7 +196,7 @@ public final class ModelTest {
             due(call + "set", store.set(x, f, y), model.set(x, f, y));
         } else if (way < 92) {
             due(call + "mark", store.mark(x), model.mark(x));
-        } else if (way < 99) {
+        } else if (way < 98) {
             due(call + "count", store.count(what), model.count(what));
         } else if (random.nextInt(4) != 0) {
             markSome();
@@ -170,6 +223,8 @@ public final class ModelTest {
         for (int x = 0; x < nodes + 3; x++) {
             for (int what = 0; what < 5; what++) {
                 due(call + "then look", store.look(x, 0L, what), model.look(x, 0L, what));
+                due(call + "then feature", store.feature(x, 0L, what), model.feature(x, 0L, what));
+                due(call + "then part", store.look(x, 1L + what, 3), model.look(x, 1L + what, 3));
             }
         }
     }

@@ -22,6 +22,7 @@ public final class PromisesTest {
         promise10();
         promise11();
         promise12();
+        promise12Many();
         promise13();
         promise13Paths();
         promise14();
@@ -34,6 +35,7 @@ public final class PromisesTest {
         promise18Gone();
         promise19();
         promise19Leaders();
+        promise19Twice();
         promise20();
         promise21();
         Check.finish();
@@ -433,6 +435,26 @@ public final class PromisesTest {
         Check.due("12 none", s.touched(0), NONE);
     }
 
+    private static void promise12Many() {
+        TreeStore s = new TreeStore();
+        int[] variables = new int[2 * 100];
+        int[] numbers = new int[2 * 100];
+        for (int i = 0; i < 100; i++) {
+            variables[2 * i] = i + 1;
+            variables[2 * i + 1] = s.variable();
+            numbers[2 * i] = i + 1;
+            numbers[2 * i + 1] = s.number(i);
+        }
+        int x = record(s, 1, variables);
+        int y = record(s, 1, numbers);
+        Check.due("12 many hang", s.hangs(x, y, 99), variables[199]);
+        Check.due("12 many", s.tell(x, y), true);
+        Check.due("12 so many", s.count(4), 100);
+        Check.due("12 the first", s.touched(0), variables[1]);
+        Check.due("12 the last", s.touched(99), variables[199]);
+        Check.due("12 no more", s.touched(100), NONE);
+    }
+
     private static void promise13() {
         TreeStore s = new TreeStore();
         int v = s.variable();
@@ -652,6 +674,7 @@ public final class PromisesTest {
         int q = s.variable();
         s.tell(y, record(s, 1, 1, record(s, 1, 1, y, 2, q), 2, q));
         Check.due("17 rings", s.like(x, y), true);
+        Check.due("17 rings, the longer one first", s.like(y, x), true);
         int z = s.variable();
         s.tell(z, record(s, 1, 1, record(s, 1, 1, z, 2, p), 2, q));
         Check.due("17 rings with two variables", s.like(x, z), false);
@@ -785,6 +808,30 @@ public final class PromisesTest {
         Check.due("19 and on", s.tell(v, n), true);
         Check.due("19 to what stayed", s.look(t, 1L, 1), 1);
         Check.due("19 the least", s.look(v, 0L, 3), n);
+    }
+
+    private static void promise19Twice() {
+        TreeStore s = new TreeStore();
+        int low = s.variable();
+        int a = s.number(11);
+        int b = s.number(22);
+        int r = record(s, 1, 1, a, 2, b);
+        s.mark(r);
+        Check.due("19 a number gets free", s.sweep(), 1);
+        int q = record(s, 2, 3, b, 4, b, 5, r);
+        Check.due("19 for a later record", q, low);
+        s.mark(q);
+        Check.due("19 all stay", s.sweep(), 0);
+        Check.due("19 the first's first feature", s.feature(r, 0L, 0), 1);
+        Check.due("19 the first's last feature", s.feature(r, 0L, 1), 2);
+        Check.due("19 the first's first part", s.look(r, 1L, 1), 11);
+        Check.due("19 the first's last part", s.look(r, 2L, 1), 22);
+        Check.due("19 the later's first part", s.part(q, 3), b);
+        Check.due("19 the later's last part", s.part(q, 5), r);
+        s.mark(r);
+        Check.due("19 the later goes", s.sweep(), 1);
+        Check.due("19 the first stays", s.look(r, 2L, 1), 22);
+        Check.due("19 its fields", s.count(1), 2);
     }
 
     private static void promise20() {
