@@ -41,22 +41,6 @@ public final class PromisesTest {
         Check.finish();
     }
 
-    private static int record(TreeStore s, int label, int... fields) {
-        pushAll(s, fields);
-        return s.record(label);
-    }
-
-    private static int thing(TreeStore s, int code, int... fields) {
-        pushAll(s, fields);
-        return s.thing(code);
-    }
-
-    private static void pushAll(TreeStore s, int... fields) {
-        for (int i = 0; i < fields.length; i += 2) {
-            s.push(fields[i], fields[i + 1]);
-        }
-    }
-
     private static void counts(String when, TreeStore s, int... want) {
         for (int what = 0; what < want.length; what++) {
             Check.due(when + " count(" + what + ")", s.count(what), want[what]);
@@ -209,9 +193,9 @@ public final class PromisesTest {
         int a = s.variable();
         int b = s.variable();
         int c = s.variable();
-        int r = record(s, 1, 1, a, 2, b);
+        int r = Make.record(s, 1, 1, a, 2, b);
         int five = s.number(5);
-        int q = record(s, 1, 2, c, 1, five);
+        int q = Make.record(s, 1, 2, c, 1, five);
         Check.due("8 records", s.tell(r, q), true);
         Check.due("8 a part is determined", s.look(a, 0L, 1), 5);
         Check.due("8 parts are the same", s.look(c, 0L, 3), b);
@@ -240,8 +224,8 @@ public final class PromisesTest {
         int a = s.variable();
         int one = s.number(1);
         int two = s.number(2);
-        int x = record(s, 1, 1, a, 2, one);
-        int y = record(s, 1, 1, one, 2, two);
+        int x = Make.record(s, 1, 1, a, 2, one);
+        int y = Make.record(s, 1, 1, one, 2, two);
         s.need(a);
         s.mark(x);
         Check.due("8 a clash behind a binding", s.tell(x, y), false);
@@ -250,11 +234,11 @@ public final class PromisesTest {
         Check.due("8 marks stay", s.count(5), 3);
         Check.due("8 records stay apart", s.look(y, 0L, 3), y);
         int atom = s.atom(1);
-        int label = record(s, 2, 1, a, 2, one);
-        int feature = record(s, 1, 1, a, 3, one);
-        int more = record(s, 1, 1, a, 2, one, 3, one);
-        int thing = thing(s, 1, 1, a, 2, one);
-        int other = thing(s, 1, 1, a, 2, one);
+        int label = Make.record(s, 2, 1, a, 2, one);
+        int feature = Make.record(s, 1, 1, a, 3, one);
+        int more = Make.record(s, 1, 1, a, 2, one, 3, one);
+        int thing = Make.thing(s, 1, 1, a, 2, one);
+        int other = Make.thing(s, 1, 1, a, 2, one);
         int[] all = {one, two, atom, x, label, feature, more, thing, other};
         for (int p : all) {
             for (int q : all) {
@@ -268,13 +252,13 @@ public final class PromisesTest {
     private static void promise8Rings() {
         TreeStore s = new TreeStore();
         int x = s.variable();
-        Check.due("8 a ring", s.tell(x, record(s, 1, 1, x)), true);
+        Check.due("8 a ring", s.tell(x, Make.record(s, 1, 1, x)), true);
         int y = s.variable();
-        Check.due("8 a longer ring", s.tell(record(s, 1, 1, record(s, 1, 1, y)), y), true);
+        Check.due("8 a longer ring", s.tell(Make.record(s, 1, 1, Make.record(s, 1, 1, y)), y), true);
         Check.due("8 rings are equal", s.tell(y, x), true);
         Check.due("8 all are the same", s.look(y, 0x0101010101010101L, 3), x);
         int z = s.variable();
-        int odd = record(s, 1, 1, record(s, 2, 1, z));
+        int odd = Make.record(s, 1, 1, Make.record(s, 2, 1, z));
         s.tell(z, odd);
         Check.due("8 a ring of two labels", s.tell(z, x), false);
         Check.due("8 is as before", s.look(z, 0x01L, 1), 2);
@@ -289,28 +273,28 @@ public final class PromisesTest {
         Check.due("9 no such node", s.ask(a, 9), -2);
         Check.due("9 no such node first", s.ask(-1, a), -2);
         Check.due("9 far off", s.ask(INT_HIGH, INT_LOW), -2);
-        int r = record(s, 1, 1, a);
-        int q = record(s, 1, 1, b);
+        int r = Make.record(s, 1, 1, a);
+        int q = Make.record(s, 1, 1, b);
         Check.due("9 perhaps", s.ask(r, q), -1);
         Check.due("9 asking changes nothing", s.look(b, 0L, 3), b);
         Check.due("9 a variable and a record", s.ask(a, r), -1);
         s.tell(a, b);
         Check.due("9 told parts", s.ask(r, q), 1);
         Check.due("9 equal, not the same", s.look(q, 0L, 3), q);
-        int p = record(s, 2, 1, a);
+        int p = Make.record(s, 2, 1, a);
         Check.due("9 for none", s.ask(r, p), 0);
-        int both = record(s, 3, 1, a, 2, s.number(1));
-        int none = record(s, 3, 1, s.number(2), 2, s.number(2));
+        int both = Make.record(s, 3, 1, a, 2, s.number(1));
+        int none = Make.record(s, 3, 1, s.number(2), 2, s.number(2));
         Check.due("9 for none behind a binding", s.ask(both, none), 0);
-        int twice = record(s, 4, 1, a, 2, a);
-        int clash = record(s, 4, 1, s.number(1), 2, s.number(2));
+        int twice = Make.record(s, 4, 1, a, 2, a);
+        int clash = Make.record(s, 4, 1, s.number(1), 2, s.number(2));
         Check.due("9 for none by two bindings", s.ask(twice, clash), 0);
-        int t = thing(s, 1, 1, a);
-        int u = thing(s, 1, 1, a);
+        int t = Make.thing(s, 1, 1, a);
+        int u = Make.thing(s, 1, 1, a);
         Check.due("9 things", s.ask(t, u), 0);
         Check.due("9 a thing and a variable", s.ask(t, a), -1);
-        Check.due("9 things in records", s.ask(record(s, 1, 1, t), record(s, 1, 1, u)), 0);
-        Check.due("9 one thing in records", s.ask(record(s, 1, 1, t), record(s, 1, 1, t)), 1);
+        Check.due("9 things in records", s.ask(Make.record(s, 1, 1, t), Make.record(s, 1, 1, u)), 0);
+        Check.due("9 one thing in records", s.ask(Make.record(s, 1, 1, t), Make.record(s, 1, 1, t)), 1);
         Check.due("9 numbers", s.ask(s.number(3), s.number(3)), 1);
         Check.due("9 number and atom", s.ask(s.number(3), s.atom(3)), 0);
     }
@@ -319,13 +303,13 @@ public final class PromisesTest {
         TreeStore s = new TreeStore();
         int z = s.variable();
         int x = s.variable();
-        s.tell(x, record(s, 1, 1, x, 2, z));
+        s.tell(x, Make.record(s, 1, 1, x, 2, z));
         int y = s.variable();
-        s.tell(y, record(s, 1, 1, record(s, 1, 1, y, 2, z), 2, z));
+        s.tell(y, Make.record(s, 1, 1, Make.record(s, 1, 1, y, 2, z), 2, z));
         Check.due("9 rings", s.ask(x, y), 1);
         int w = s.variable();
         int v = s.variable();
-        s.tell(w, record(s, 1, 1, record(s, 1, 1, w, 2, v), 2, z));
+        s.tell(w, Make.record(s, 1, 1, Make.record(s, 1, 1, w, 2, v), 2, z));
         Check.due("9 rings with a variable", s.ask(x, w), -1);
         Check.due("9 it hangs on one", s.hangs(x, w, 0), z);
         Check.due("9 and on another", s.hangs(x, w, 1), v);
@@ -343,8 +327,8 @@ public final class PromisesTest {
         int c = s.variable();
         int d = s.variable();
         s.tell(d, b);
-        int x = record(s, 1, 1, d, 2, c, 3, a);
-        int y = record(s, 1, 1, a, 2, s.number(1), 3, b);
+        int x = Make.record(s, 1, 1, d, 2, c, 3, a);
+        int y = Make.record(s, 1, 1, a, 2, s.number(1), 3, b);
         Check.due("10 lowest", s.hangs(x, y, 0), a);
         Check.due("10 a leader", s.hangs(x, y, 1), b);
         Check.due("10 a determined one", s.hangs(x, y, 2), c);
@@ -355,8 +339,8 @@ public final class PromisesTest {
         Check.due("10 nothing changes", s.look(c, 0L, 0), 0);
         Check.due("10 equal", s.hangs(x, x, 0), NONE);
         Check.due("10 never", s.hangs(x, s.number(1), 0), NONE);
-        int clash = record(s, 1, 1, a, 2, c, 3, s.number(1));
-        int other = record(s, 1, 1, b, 2, c, 3, s.number(2));
+        int clash = Make.record(s, 1, 1, a, 2, c, 3, s.number(1));
+        int other = Make.record(s, 1, 1, b, 2, c, 3, s.number(2));
         Check.due("10 never, behind bindings", s.hangs(clash, other, 0), NONE);
         Check.due("10 no such node", s.hangs(x, 99, 0), NONE);
         Check.due("10 no such node first", s.hangs(-1, x, 0), NONE);
@@ -375,7 +359,7 @@ public final class PromisesTest {
         Check.due("11 twice", s.need(a), false);
         Check.due("11 needed", s.look(a, 0L, 4), 1);
         Check.due("11 another one", s.look(b, 0L, 4), 0);
-        int r = record(s, 1, 1, b);
+        int r = Make.record(s, 1, 1, b);
         Check.due("11 a record", s.need(r), false);
         Check.due("11 its part", s.look(r, 1L, 4), 0);
         s.tell(b, a);
@@ -419,8 +403,8 @@ public final class PromisesTest {
         Check.due("12 need is one", s.count(4), 1);
         Check.due("12 need again", s.need(d), false);
         Check.due("12 stays", s.count(4), 1);
-        int x = record(s, 1, 1, b, 2, d);
-        int y = record(s, 1, 1, s.number(1), 2, s.number(2));
+        int x = Make.record(s, 1, 1, b, 2, d);
+        int y = Make.record(s, 1, 1, s.number(1), 2, s.number(2));
         Check.due("12 made nodes leave it", s.touched(0), a);
         s.tell(x, y);
         Check.due("12 determined", s.touched(0), a);
@@ -445,8 +429,8 @@ public final class PromisesTest {
             numbers[2 * i] = i + 1;
             numbers[2 * i + 1] = s.number(i);
         }
-        int x = record(s, 1, variables);
-        int y = record(s, 1, numbers);
+        int x = Make.record(s, 1, variables);
+        int y = Make.record(s, 1, numbers);
         Check.due("12 many hang", s.hangs(x, y, 99), variables[199]);
         Check.due("12 many", s.tell(x, y), true);
         Check.due("12 so many", s.count(4), 100);
@@ -460,8 +444,8 @@ public final class PromisesTest {
         int v = s.variable();
         int n = s.number(-9);
         int a = s.atom(8);
-        int r = record(s, 7, 1, v, 2, n);
-        int t = thing(s, 6, 1, r, -1, a, -2, v);
+        int r = Make.record(s, 7, 1, v, 2, n);
+        int t = Make.thing(s, 6, 1, r, -1, a, -2, v);
         int[][] want = {{0, 0, 0, v, 0}, {1, -9, 0, n, 1}, {2, 8, 0, a, 1}, {3, 7, 2, r, 1}, {4, 6, 3, t, 1}};
         for (int x = 0; x < want.length; x++) {
             for (int what = 0; what < 5; what++) {
@@ -486,8 +470,8 @@ public final class PromisesTest {
         TreeStore s = new TreeStore();
         int v = s.variable();
         int n = s.number(4);
-        int r = record(s, 7, 9000, v, -3, n);
-        int t = thing(s, 6, 1, r, 2, v, 3, n);
+        int r = Make.record(s, 7, 9000, v, -3, n);
+        int t = Make.thing(s, 6, 1, r, 2, v, 3, n);
         s.tell(v, t);
         Check.due("13 parts, not features", s.look(r, 1L, 3), v);
         Check.due("13 second part", s.look(r, 2L, 1), 4);
@@ -507,7 +491,7 @@ public final class PromisesTest {
             fields[2 * i] = i + 1;
             fields[2 * i + 1] = i == 254 ? end : t;
         }
-        int wide = record(s, 1, fields);
+        int wide = Make.record(s, 1, fields);
         Check.due("13 the part number 255", s.look(wide, 0xFFL, 3), end);
         s.tell(end, wide);
         Check.due("13 eight times number 255", s.look(wide, -1L, 3), end);
@@ -517,7 +501,7 @@ public final class PromisesTest {
     private static void promise14() {
         TreeStore s = new TreeStore();
         int v = s.variable();
-        int r = record(s, 1, -8192, v, 9999, v, -1, v, 3, v, -2, v, 1, v);
+        int r = Make.record(s, 1, -8192, v, 9999, v, -1, v, 3, v, -2, v, 1, v);
         int[] want = {1, 3, 9999, -1, -2, -8192};
         for (int i = 0; i < want.length; i++) {
             Check.due("14 feature " + i, s.feature(r, 0L, i), want[i]);
@@ -526,7 +510,7 @@ public final class PromisesTest {
         Check.due("14 none below", s.feature(r, 0L, -1), 0);
         Check.due("14 far below", s.feature(r, 0L, INT_LOW), 0);
         Check.due("14 far above", s.feature(r, 0L, INT_HIGH), 0);
-        int t = thing(s, 1, -5, r);
+        int t = Make.thing(s, 1, -5, r);
         Check.due("14 of a thing", s.feature(t, 0L, 0), -5);
         Check.due("14 by a path", s.feature(t, 1L, 2), 9999);
         Check.due("14 by no path", s.feature(t, 2L, 0), 0);
@@ -545,8 +529,8 @@ public final class PromisesTest {
         int b = s.variable();
         s.tell(a, b);
         int n = s.number(1);
-        int r = record(s, 1, 2, b, -4, n);
-        int t = thing(s, 1, 3, r);
+        int r = Make.record(s, 1, 2, b, -4, n);
+        int t = Make.thing(s, 1, 3, r);
         Check.due("15 the leader", s.part(r, 2), a);
         Check.due("15 by an atom", s.part(r, -4), n);
         Check.due("15 of a thing", s.part(t, 3), r);
@@ -568,8 +552,8 @@ public final class PromisesTest {
         int w = s.variable();
         int u = s.variable();
         s.tell(w, u);
-        int t = thing(s, 1, 2, u, -1, v);
-        int r = record(s, 1, 2, v);
+        int t = Make.thing(s, 1, 2, u, -1, v);
+        int r = Make.record(s, 1, 2, v);
         Check.due("16 no such node", s.set(99, 2, v), NONE);
         Check.due("16 no such part", s.set(t, 2, 99), NONE);
         Check.due("16 part below", s.set(t, 2, -1), NONE);
@@ -611,18 +595,18 @@ public final class PromisesTest {
         Check.due("17 no such node", s.like(a, 99), false);
         Check.due("17 no such node first", s.like(-1, a), false);
         Check.due("17 no such nodes", s.like(99, 99), false);
-        int ra = record(s, 1, 1, a, 2, one);
-        int rb = record(s, 1, 1, b, 2, one);
+        int ra = Make.record(s, 1, 1, a, 2, one);
+        int rb = Make.record(s, 1, 1, b, 2, one);
         Check.due("17 records", s.like(ra, rb), true);
-        Check.due("17 labels", s.like(ra, record(s, 2, 1, b, 2, one)), false);
-        Check.due("17 features", s.like(ra, record(s, 1, 1, b, 3, one)), false);
-        Check.due("17 fewer fields", s.like(ra, record(s, 1, 1, b)), false);
-        int t = thing(s, 5, 1, a);
-        Check.due("17 things", s.like(t, thing(s, 5, 1, b)), true);
-        Check.due("17 codes", s.like(t, thing(s, 6, 1, b)), false);
-        Check.due("17 features of things", s.like(t, thing(s, 5, 2, b)), false);
-        Check.due("17 parts of things", s.like(t, thing(s, 5, 1, one)), false);
-        Check.due("17 a thing and a record", s.like(t, record(s, 5, 1, a)), false);
+        Check.due("17 labels", s.like(ra, Make.record(s, 2, 1, b, 2, one)), false);
+        Check.due("17 features", s.like(ra, Make.record(s, 1, 1, b, 3, one)), false);
+        Check.due("17 fewer fields", s.like(ra, Make.record(s, 1, 1, b)), false);
+        int t = Make.thing(s, 5, 1, a);
+        Check.due("17 things", s.like(t, Make.thing(s, 5, 1, b)), true);
+        Check.due("17 codes", s.like(t, Make.thing(s, 6, 1, b)), false);
+        Check.due("17 features of things", s.like(t, Make.thing(s, 5, 2, b)), false);
+        Check.due("17 parts of things", s.like(t, Make.thing(s, 5, 1, one)), false);
+        Check.due("17 a thing and a record", s.like(t, Make.record(s, 5, 1, a)), false);
         Check.due("17 a variable and a thing", s.like(a, s.thing(0)), false);
         Check.due("17 a thing and a variable", s.like(s.thing(0), a), false);
         s.need(a);
@@ -636,31 +620,31 @@ public final class PromisesTest {
         TreeStore s = new TreeStore();
         int a = s.variable();
         int b = s.variable();
-        int ab = record(s, 1, 1, a, 2, b);
-        int ba = record(s, 1, 1, b, 2, a);
-        int aa = record(s, 1, 1, a, 2, a);
-        int bb = record(s, 1, 1, b, 2, b);
+        int ab = Make.record(s, 1, 1, a, 2, b);
+        int ba = Make.record(s, 1, 1, b, 2, a);
+        int aa = Make.record(s, 1, 1, a, 2, a);
+        int bb = Make.record(s, 1, 1, b, 2, b);
         Check.due("17 crossed", s.like(ab, ba), true);
         Check.due("17 one to two", s.like(aa, ab), false);
         Check.due("17 two to one", s.like(ab, aa), false);
         Check.due("17 one to one", s.like(aa, bb), true);
         int t = s.thing(1);
         int u = s.thing(1);
-        int tu = record(s, 1, 1, t, 2, u);
-        Check.due("17 things crossed", s.like(tu, record(s, 1, 1, u, 2, t)), true);
-        Check.due("17 one thing to two", s.like(record(s, 1, 1, t, 2, t), tu), false);
-        Check.due("17 two things to one", s.like(tu, record(s, 1, 1, u, 2, u)), false);
+        int tu = Make.record(s, 1, 1, t, 2, u);
+        Check.due("17 things crossed", s.like(tu, Make.record(s, 1, 1, u, 2, t)), true);
+        Check.due("17 one thing to two", s.like(Make.record(s, 1, 1, t, 2, t), tu), false);
+        Check.due("17 two things to one", s.like(tu, Make.record(s, 1, 1, u, 2, u)), false);
         Check.due("17 things and variables", s.like(tu, ab), false);
         int n = s.number(3);
         int m = s.number(3);
-        Check.due("17 numbers need no way", s.like(record(s, 1, 1, n, 2, n), record(s, 1, 1, n, 2, m)), true);
-        int ra = record(s, 2, 1, a);
-        int ra2 = record(s, 2, 1, a);
-        int rb = record(s, 2, 1, b);
-        int shared = record(s, 1, 1, ra, 2, ra);
-        Check.due("17 records need no way", s.like(shared, record(s, 1, 1, ra, 2, ra2)), true);
-        Check.due("17 but what they lead to does", s.like(shared, record(s, 1, 1, ra, 2, rb)), false);
-        Check.due("17 and back", s.like(record(s, 1, 1, ra, 2, rb), shared), false);
+        Check.due("17 numbers need no way", s.like(Make.record(s, 1, 1, n, 2, n), Make.record(s, 1, 1, n, 2, m)), true);
+        int ra = Make.record(s, 2, 1, a);
+        int ra2 = Make.record(s, 2, 1, a);
+        int rb = Make.record(s, 2, 1, b);
+        int shared = Make.record(s, 1, 1, ra, 2, ra);
+        Check.due("17 records need no way", s.like(shared, Make.record(s, 1, 1, ra, 2, ra2)), true);
+        Check.due("17 but what they lead to does", s.like(shared, Make.record(s, 1, 1, ra, 2, rb)), false);
+        Check.due("17 and back", s.like(Make.record(s, 1, 1, ra, 2, rb), shared), false);
         s.tell(a, b);
         Check.due("17 the same count as one", s.like(ab, aa), true);
     }
@@ -669,19 +653,19 @@ public final class PromisesTest {
         TreeStore s = new TreeStore();
         int x = s.variable();
         int p = s.variable();
-        s.tell(x, record(s, 1, 1, x, 2, p));
+        s.tell(x, Make.record(s, 1, 1, x, 2, p));
         int y = s.variable();
         int q = s.variable();
-        s.tell(y, record(s, 1, 1, record(s, 1, 1, y, 2, q), 2, q));
+        s.tell(y, Make.record(s, 1, 1, Make.record(s, 1, 1, y, 2, q), 2, q));
         Check.due("17 rings", s.like(x, y), true);
         Check.due("17 rings, the longer one first", s.like(y, x), true);
         int z = s.variable();
-        s.tell(z, record(s, 1, 1, record(s, 1, 1, z, 2, p), 2, q));
+        s.tell(z, Make.record(s, 1, 1, Make.record(s, 1, 1, z, 2, p), 2, q));
         Check.due("17 rings with two variables", s.like(x, z), false);
         Check.due("17 and back", s.like(z, x), false);
-        int t = thing(s, 1, 1, x);
-        int u = thing(s, 1, 1, x);
-        int w = thing(s, 1, 1, x);
+        int t = Make.thing(s, 1, 1, x);
+        int u = Make.thing(s, 1, 1, x);
+        int w = Make.thing(s, 1, 1, x);
         s.set(t, 1, t);
         s.set(u, 1, w);
         s.set(w, 1, u);
@@ -697,8 +681,8 @@ public final class PromisesTest {
         int b = s.variable();
         int c = s.variable();
         s.tell(b, c);
-        int r = record(s, 1, 1, c);
-        int t = thing(s, 1, 1, r);
+        int r = Make.record(s, 1, 1, c);
+        int t = Make.thing(s, 1, 1, r);
         int alone = s.number(1);
         Check.due("18 no such node", s.mark(99), NONE);
         Check.due("18 node below", s.mark(-1), NONE);
@@ -724,7 +708,7 @@ public final class PromisesTest {
     private static void promise18Gone() {
         TreeStore s = new TreeStore();
         int v = s.variable();
-        int t = thing(s, 1, 1, v);
+        int t = Make.thing(s, 1, 1, v);
         for (int way = 0; way < 14; way++) {
             s.mark(v);
             Check.due("18 marked", s.count(5), 1);
@@ -756,8 +740,8 @@ public final class PromisesTest {
         TreeStore s = new TreeStore();
         int a = s.variable();
         int b = s.variable();
-        int r = record(s, 1, 1, b);
-        int t = thing(s, 2, 1, r, -1, b);
+        int r = Make.record(s, 1, 1, b);
+        int t = Make.thing(s, 2, 1, r, -1, b);
         s.need(b);
         s.push(1, a);
         s.mark(t);
@@ -782,14 +766,14 @@ public final class PromisesTest {
         int x = s.variable();
         int y = s.variable();
         int n = s.number(8);
-        int r = record(s, 3, 1, y, 2, x);
-        int q = record(s, 3, 1, n, 2, r);
+        int r = Make.record(s, 3, 1, y, 2, x);
+        int q = Make.record(s, 3, 1, n, 2, r);
         s.tell(r, x);
         s.tell(r, q);
         int v = s.variable();
         int w = s.variable();
         s.tell(v, w);
-        int t = thing(s, 4, 1, w, 2, q);
+        int t = Make.thing(s, 4, 1, w, 2, q);
         int u = s.variable();
         s.tell(t, u);
         s.mark(u);
@@ -815,10 +799,10 @@ public final class PromisesTest {
         int low = s.variable();
         int a = s.number(11);
         int b = s.number(22);
-        int r = record(s, 1, 1, a, 2, b);
+        int r = Make.record(s, 1, 1, a, 2, b);
         s.mark(r);
         Check.due("19 a number gets free", s.sweep(), 1);
-        int q = record(s, 2, 3, b, 4, b, 5, r);
+        int q = Make.record(s, 2, 3, b, 4, b, 5, r);
         Check.due("19 for a later record", q, low);
         s.mark(q);
         Check.due("19 all stay", s.sweep(), 0);
@@ -837,7 +821,7 @@ public final class PromisesTest {
     private static void promise20() {
         TreeStore s = new TreeStore();
         int a = s.variable();
-        record(s, 1, 1, a);
+        Make.record(s, 1, 1, a);
         s.need(a);
         s.push(2, a);
         s.mark(a);
@@ -857,9 +841,9 @@ public final class PromisesTest {
         int a = s.variable();
         int b = s.variable();
         int c = s.variable();
-        int r = record(s, 1, 1, a, 2, b);
-        int q = record(s, 1, 1, b, 2, c);
-        int t = thing(s, 1, 1, c);
+        int r = Make.record(s, 1, 1, a, 2, b);
+        int q = Make.record(s, 1, 1, b, 2, c);
+        int t = Make.thing(s, 1, 1, c);
         s.push(1, a);
         s.push(2, a);
         counts("21 before:", s, 6, 5, 2, 3, 0, 0);
