@@ -439,6 +439,7 @@ public final class TreeStore {
         /** With a leader: one of the same that is no variable, if there is one, otherwise the leader. */
         private int[] bodies;
         private int[] needed;
+        /** With a leader: 1 when all that are the same are marked. */
         private int[] marked;
         /** One above the highest number that a node has. */
         private int top;
@@ -599,7 +600,7 @@ public final class TreeStore {
                     markLeader(partLeader(starts[body] + i));
                 }
             }
-            markAllLed();
+            marks = allMarked();
         }
 
         private void markLeader(int leader) {
@@ -609,14 +610,14 @@ public final class TreeStore {
             }
         }
 
-        private void markAllLed() {
-            marks = 0;
+        private int allMarked() {
+            int found = 0;
             for (int n = 0; n < top; n++) {
                 if (has(n) && marked[lead[n]] == 1) {
-                    marked[n] = 1;
-                    marks++;
+                    found++;
                 }
             }
+            return found;
         }
 
         void keepMarkedLeaders() {
@@ -632,7 +633,7 @@ public final class TreeStore {
         }
 
         private boolean staysBehind(int n) {
-            return marked[n] == 1 && lead[n] == n;
+            return marked[n] == 1;
         }
 
         private void takeOnBody(int leader) {

@@ -480,8 +480,10 @@ public final class BoundariesTest {
         Check.due("perhaps", s.hangs(0, r, 0), 0);
         TreeStore holed = Make.withHole();
         for (int n : Make.noNodesOfWithHole()) {
+            Check.due("two variables", holed.hangs(0, 2, 0), 0);
             Check.due("no first " + n, holed.hangs(n, 0, 0), NONE);
             Check.due("no second " + n, holed.hangs(0, n, 0), NONE);
+            Check.due("neither " + n, holed.hangs(n, n, 0), NONE);
         }
     }
 
@@ -1052,6 +1054,7 @@ public final class BoundariesTest {
         sweepMarksGo();
         sweepLeadersStay();
         sweepPartsToo();
+        sweepAnyNumberOfFields();
         sweepPushedAndTouchedGo();
     }
 
@@ -1135,6 +1138,22 @@ public final class BoundariesTest {
         Check.due("not the new one", s.look(r, 1L, 0), 0);
         s.tell(a, b);
         Check.due("told of the leader", s.look(t, 0x0102L, 1), 6);
+    }
+
+    private static void sweepAnyNumberOfFields() {
+        Check.sentence("Promise 19", "of nodes that are marked the leaders stay");
+        for (int fields : new int[] {1, 2, 15, 16, 17, 31, 32, 33, 63, 64, 65, 127, 128, 129, 254, 255}) {
+            TreeStore s = new TreeStore();
+            int v = s.variable();
+            Make.pushMany(s, 1, fields, v);
+            int t = s.thing(1);
+            s.mark(t);
+            Check.due("none goes", s.sweep(), 0);
+            Check.due("fields", s.count(1), fields);
+            Check.due("the last feature", s.feature(t, 0L, fields - 1), fields);
+            Check.due("the last part", s.look(t, fields, 3), v);
+            Check.due("no more", s.part(t, fields + 1), NONE);
+        }
     }
 
     private static void sweepPushedAndTouchedGo() {

@@ -9,6 +9,8 @@ public final class LimitsTest {
     private static final int FULL = TreeStore.FULL;
 
     public static void main(String[] args) {
+        manyNodesIn512Calls();
+        deepTreesIn512Calls();
         fullOfNodes();
         fullLeavesAll();
         roomAgain();
@@ -17,6 +19,31 @@ public final class LimitsTest {
         fieldsOnceBehindSweep();
         longChains();
         Check.finish();
+    }
+
+    private static void manyNodesIn512Calls() {
+        Check.sentence("What it is", "An object is used for at most 512 calls after it has been made");
+        TreeStore s = new TreeStore();
+        for (int i = 0; i < 256; i++) {
+            Check.due("variable", s.variable(), i);
+        }
+        for (int i = 255; i > 0; i--) {
+            Check.due("tell", s.tell(i, i - 1), true);
+        }
+        Check.due("call 512", s.look(255, 0L, 3), 0);
+    }
+
+    private static void deepTreesIn512Calls() {
+        Check.sentence("What it is", "An object is used for at most 512 calls after it has been made");
+        TreeStore s = new TreeStore();
+        int left = s.variable();
+        int right = s.variable();
+        for (int i = 0; i < 127; i++) {
+            left = Make.record(s, 1, 1, left);
+            right = Make.record(s, 1, 1, right);
+        }
+        Check.due("call 511", s.tell(left, right), true);
+        Check.due("call 512", s.look(1, 0L, 3), 0);
     }
 
     private static TreeStore withAllNodes() {
