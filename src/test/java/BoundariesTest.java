@@ -993,6 +993,7 @@ public final class BoundariesTest {
         markLeader();
         markNoNode();
         markAll();
+        markBehindAWideRing();
     }
 
     private static void markLeader() {
@@ -1046,6 +1047,23 @@ public final class BoundariesTest {
         Check.due("a ring", s.count(5), 7);
         s.mark(alone);
         Check.due("all", s.count(5), s.count(0));
+    }
+
+    private static void markBehindAWideRing() {
+        Check.sentence("Promise 18", "all that its parts lead to are marked");
+        TreeStore s = new TreeStore();
+        int x = s.variable();
+        int chain = s.variable();
+        for (int i = 0; i < 6; i++) {
+            chain = Make.record(s, 1, 1, chain);
+        }
+        Make.pushMany(s, 1, 254, x);
+        s.push(255, chain);
+        s.tell(x, s.record(1));
+        s.mark(x);
+        Check.due("all", s.count(5), 9);
+        Check.due("one goes", s.sweep(), 1);
+        Check.due("the end of the chain", s.look(x, 0x010101010101FFL, 3), 1);
     }
 
     private static void sweeping() {
